@@ -282,7 +282,7 @@ public final class EmberTale {
     }
 
     private boolean layText() {
-        if (!reader.isLayable()) {
+        if (reader.firstFault() != NONE || !reader.readAWhole()) {
             return false;
         }
         tale.become(reader.tale());
@@ -312,7 +312,7 @@ public final class EmberTale {
     }
 
     private static boolean isWood(int wood) {
-        return within(wood, 0, WOODS - 1);
+        return wood >= 0 && wood < WOODS;
     }
 
     private static boolean within(int number, int low, int high) {
@@ -348,11 +348,11 @@ public final class EmberTale {
         }
 
         int get(int place) {
-            return isInside(place) ? cells[place] : NONE;
+            return place >= 0 && place < size && place < cells.length ? cells[place] : NONE;
         }
 
         void set(int place, int number) {
-            if (isInside(place)) {
+            if (place >= 0 && place < size && place < cells.length) {
                 cells[place] = number;
             }
         }
@@ -369,10 +369,6 @@ public final class EmberTale {
             for (int i = 0; i < other.size(); i++) {
                 add(other.get(i));
             }
-        }
-
-        private boolean isInside(int place) {
-            return place >= 0 && place < size && place < cells.length;
         }
     }
 
@@ -414,13 +410,16 @@ public final class EmberTale {
         private final Row rainfall = new Row(MOST_RAINS);
         private final Row ways = new Row(MOST_LINES);
         private final Row waysBehind = new Row(MOST_LINES);
+        private int lines;
 
         void clear() {
+            lines = 0;
             next.clear();
             rainfall.clear();
         }
 
         void become(Tale other) {
+            lines = other.lines;
             next.become(other.next);
             rainfall.become(other.rainfall);
         }
@@ -432,6 +431,7 @@ public final class EmberTale {
             for (int wood = 0; wood < WOODS; wood++) {
                 next.add(followers.get(wood));
             }
+            lines++;
             return true;
         }
 
@@ -444,11 +444,11 @@ public final class EmberTale {
         }
 
         int lines() {
-            return next.size() / WOODS;
+            return lines;
         }
 
         boolean isLine(int l) {
-            return within(l, 0, lines() - 1);
+            return l >= 0 && l < lines;
         }
 
         boolean tellsAllItNames() {
@@ -481,7 +481,7 @@ public final class EmberTale {
 
         int reached(int start) {
             int bits = 1 << start;
-            for (int step = 1; step < lines(); step++) {
+            for (int step = 1; step < lines; step++) {
                 bits |= oneStepOn(bits);
             }
             return bits;
@@ -489,7 +489,7 @@ public final class EmberTale {
 
         private int oneStepOn(int bits) {
             int more = 0;
-            for (int l = 0; l < lines(); l++) {
+            for (int l = 0; l < lines; l++) {
                 for (int wood = 0; wood < WOODS && (bits >> l & 1) == 1; wood++) {
                     more |= 1 << comingFrom(l, wood);
                 }
@@ -499,7 +499,7 @@ public final class EmberTale {
 
         int origins(Row woods, int end) {
             int bits = 0;
-            for (int l = 0; l < lines(); l++) {
+            for (int l = 0; l < lines; l++) {
                 if (endOf(l, woods) == end) {
                     bits |= 1 << l;
                 }
@@ -526,7 +526,7 @@ public final class EmberTale {
 
         private void lengthenWays() {
             waysBehind.fill(0);
-            for (int l = 0; l < lines(); l++) {
+            for (int l = 0; l < lines; l++) {
                 for (int wood = 0; wood < WOODS; wood++) {
                     int follower = comingFrom(l, wood);
                     waysBehind.set(follower, waysBehind.get(follower) + ways.get(l));
@@ -807,8 +807,9 @@ public final class EmberTale {
             return camp;
         }
 
-        boolean isLayable() {
-            return firstFault() == NONE && camp.companies() >= 1 && tale.tellsAllItNames();
+        /** Behind firstFault() that found none: has it a company, and are all lines told that it names? */
+        boolean readAWhole() {
+            return camp.companies() >= 1 && tale.tellsAllItNames();
         }
 
         int firstFault() {
@@ -859,13 +860,14 @@ public final class EmberTale {
         }
 
         private int readNumber() {
-            int number = figureOf(take());
-            int second = figureOf(text.get(place));
-            if (number == NONE || second == NONE) {
-                return number;
+            int first = figureOf(text.get(place));
+            int second = figureOf(text.get(place + 1));
+            if (first == NONE || second == NONE) {
+                place++;
+                return first;
             }
-            place++;
-            return 10 * number + second;
+            place += 2;
+            return 10 * first + second;
         }
 
         private int take() {
@@ -875,7 +877,7 @@ public final class EmberTale {
         }
 
         private static int figureOf(int letter) {
-            return within(letter, '0', '9') ? letter - '0' : NONE;
+            return letter >= '0' && letter <= '9' ? letter - '0' : NONE;
         }
     }
 
@@ -955,6 +957,10 @@ public final class EmberTale {
         }
 
         int fewest(Camp camp, int c, int l) {
+            // A line that no wood leads to would be looked for the longest.
+            if ((tale.reached(camp.get(c, Camp.LINE)) >> l & 1) == 0) {
+                return NONE;
+            }
             wanted = l;
             logs.clear();
             for (int wood = 0; wood < WOODS; wood++) {
