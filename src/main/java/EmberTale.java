@@ -2,7 +2,7 @@
 public final class EmberTale {
     public static final int BAD = -1, NO = -2, FULL = -3, NONE = -4;
 
-    private static final int WOODS = 4, PINE = 1, GREEN = 3;
+    private static final int WOODS = 4, OAK = 0, PINE = 1, WET = 2, GREEN = 3;
     private static final int MOST_LETTERS = 200, MOST_LINES = 9, MOST_RAINS = 8, MOST_COMPANIES = 4;
     private static final int MOST_HOT = 20, MOST_LOGS = 99;
     private static final int MOST_UNDONE = 8, MOST_KEPT = 2, MOST_SEEN = 6;
@@ -394,10 +394,11 @@ public final class EmberTale {
 
         private static int heatOf(int wood) {
             switch (wood) {
-                case 0: return 4;
+                case OAK: return 4;
                 case PINE: return 6;
+                case WET: return -2;
                 case GREEN: return 1;
-                default: return -2;
+                default: return 0;
             }
         }
     }
