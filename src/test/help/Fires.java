@@ -108,7 +108,7 @@ final class Fires {
         return twin;
     }
 
-    /** All that can be seen of the object, at last what it would be undone and brought back to: it is of no more use then. */
+    /** All that can be seen of the object, at last by undo and back: it is of no more use then. */
     List<Integer> all() {
         List<Integer> all = new ArrayList<>();
         for (int what = 0; what <= 9; what++) {

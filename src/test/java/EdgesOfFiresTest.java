@@ -33,7 +33,8 @@ public final class EdgesOfFiresTest {
             }
         });
         Edges.edge("20 at most: what is beyond is lost", () -> {
-            one(20, "", "2,1,1,1").does("put 0 0", "put 0 1", "put 0 3", "put 0 0").due(20, "company 0 0").does("put 0 2")
+            one(20, "", "2,1,1,1").does("put 0 0", "put 0 1", "put 0 3", "put 0 0").due(20, "company 0 0")
+                    .does("put 0 2")
                     .due(18, "company 0 0");
             one(19, "", "1,0,1,0").does("put 0 0", "put 0 2").due(18, "company 0 0");
         });
@@ -46,9 +47,11 @@ public final class EdgesOfFiresTest {
             }
         });
         Edges.edge("put: NO: OUT", () -> {
-            one(1, "", "1,1,1,1").due(0, "company 0 1").does("pass 1").leaves(NO, "put 0 0", "put 0 1", "put 0 2", "put 0 3");
+            one(1, "", "1,1,1,1").due(0, "company 0 1").does("pass 1")
+                    .leaves(NO, "put 0 0", "put 0 1", "put 0 2", "put 0 3");
             one(2, "", "1,1,2,1").due(NONE, "put 0 2").leaves(NO, "put 0 0", "put 0 1", "put 0 2", "put 0 3");
-            Fires x = Fires.laid("t9999;c0,5,1,1,1,1;c0,5,1,1,1,1;").does("join 0 1", "hand 0 1 0").leaves(NO, "put 1 0");
+            Fires x = Fires.laid("t9999;c0,5,1,1,1,1;c0,5,1,1,1,1;").does("join 0 1", "hand 0 1 0")
+                    .leaves(NO, "put 1 0");
             x.due(0, "put 0 0");
         });
         Edges.edge("put: BAD ahead of NO", () ->
@@ -153,7 +156,8 @@ public final class EdgesOfFiresTest {
             one(3, "r1;", "1,0,0,0").leaves(BAD, Fires.with("pass #", Fires.outside(1, 24)));
             one(20, "", "0,0,0,0").due(1, "pass 1").due(19, "company 0 0").due(1, "count 2");
             one(20, "", "0,0,0,0").due(0, "pass 24").due(24, "count 2");
-            Fires x = one(20, "", "0,0,0,0").due(1, "pass 19").due(1, "company 0 0").due(0, "pass 1").due(20, "count 2");
+            Fires x = one(20, "", "0,0,0,0").due(1, "pass 19").due(1, "company 0 0").due(0, "pass 1")
+                    .due(20, "count 2");
             x.leaves(BAD, "pass 0", "pass 25", "pass -1").due(0, "pass 24").due(44, "count 2");
         });
         Edges.edge("pass: n at one time are as n times one, but for what can be UNDONE", () -> {
@@ -188,7 +192,8 @@ public final class EdgesOfFiresTest {
         Edges.edge("the last LOG PUT ON since it was lit: none of ahead of it", () -> {
             for (int wood = 0; wood < 4; wood++) {
                 Fires x = Fires.laid("t9999;c0,20,0,0,0,0;c0,3,1,1,1,1;").does("put 1 " + wood, "pass 9");
-                x.due(NONE, "company 1 6").does("light 1 0").due(NONE, "company 1 6").does("pass 2").due(1, "company 1 0");
+                x.due(NONE, "company 1 6").does("light 1 0").due(NONE, "company 1 6").does("pass 2")
+                        .due(1, "company 1 0");
             }
             Fires wet = Fires.laid("t9999;r2;c0,20,0,0,0,0;c0,2,0,0,0,1;").does("put 1 3", "pass 3", "light 1 0");
             wet.due(3, "company 1 0").due(1, "lasts 1").does("pass 1").due(0, "company 1 0");
@@ -231,7 +236,8 @@ public final class EdgesOfFiresTest {
         });
         Edges.edge("LIT: no LOG is PUT ON by it and no LINE TOLD", () -> {
             Fires x = Fires.laid("t0000;c0,1,1,2,3,4;c0,9,4,3,2,1;").does("put 0 3", "pass 2", "light 0 1");
-            x.stands(0, 3, 0, 1, 2, 3, 3, NONE, 1).stands(1, 6, 0, 4, 3, 2, 1, NONE, 0).due(1, "count 5").due(19, "count 4");
+            x.stands(0, 3, 0, 1, 2, 3, 3, NONE, 1).stands(1, 6, 0, 4, 3, 2, 1, NONE, 0).due(1, "count 5")
+                    .due(19, "count 4");
         });
         Edges.edge("light: BAD (alike, too), ahead of NO", () -> bothCompanies("light # 0", "light 0 #", "light 0 0"));
     }
@@ -278,13 +284,15 @@ public final class EdgesOfFiresTest {
         });
         Edges.edge("JOINED: all its LOGS are the first COMPANY's (99 at most: no TEXT has so many)", () -> {
             Fires x = Fires.laid("t9999;c0,1,9,9,9,9;c0,1,9,8,7,6;c0,1,9,9,9,9;c0,1,9,0,1,9;").does("join 0 1");
-            x.stands(0, 2, 0, 18, 17, 16, 15, NONE, 0).stands(1, 0, NONE, 0, 0, 0, 0, NONE, 0).does("join 0 2", "join 0 3");
+            x.stands(0, 2, 0, 18, 17, 16, 15, NONE, 0).stands(1, 0, NONE, 0, 0, 0, 0, NONE, 0)
+                    .does("join 0 2", "join 0 3");
             x.stands(0, 4, 0, 36, 26, 26, 33, NONE, 0).due(121, "count 4").due(1, "count 3");
             x.leaves(NO, "join 0 1", "join 0 2", "join 0 3");
         });
         Edges.edge("JOINED: the first one is the first at the call", () -> {
             Fires x = Fires.laid("t9999;t9999;c0,2,1,0,0,0;c1,3,0,1,0,0;").due(0, "join 1 0");
-            x.stands(1, 5, 0, 1, 1, 0, 0, NONE, 0).stands(0, 0, NONE, 0, 0, 0, 0, NONE, 0).leaves(NO, "join 1 0", "join 0 1");
+            x.stands(1, 5, 0, 1, 1, 0, 0, NONE, 0).stands(0, 0, NONE, 0, 0, 0, 0, NONE, 0)
+                    .leaves(NO, "join 1 0", "join 0 1");
         });
         Edges.edge("Two FIRES that are IN; join: NO", () -> {
             Fires x = Fires.laid("t9999;c0,1,1,1,1,1;c0,2,1,1,1,1;c0,1,1,1,1,1;").does("pass 1");
@@ -322,12 +330,14 @@ public final class EdgesOfFiresTest {
             x.leaves(NO, "hand 1 0 0", "hand 2 0 0", "hand 3 0 0").due(36, "company 0 2", "count 4");
         });
         Edges.edge("hand: FIRES that are OUT don't matter", () -> {
-            Fires x = Fires.laid("t9999;c0,1,1,0,0,0;c0,2,0,0,0,1;").does("pass 1").due(1, "hand 0 1 0").due(1, "hand 1 0 3");
+            Fires x = Fires.laid("t9999;c0,1,1,0,0,0;c0,2,0,0,0,1;").does("pass 1").due(1, "hand 0 1 0")
+                    .due(1, "hand 1 0 3");
             x.does("pass 1").due(1, "hand 1 0 0").stands(0, 0, NONE, 1, 0, 0, 1, NONE, 0);
         });
         Edges.edge("hand: BAD (alike, too), ahead of NO", () -> {
             bothCompanies("hand # 0 0", "hand 0 # 0", "hand 0 0 0");
-            Fires x = Fires.laid("t9999;c0,9,1,1,1,1;c0,9,0,0,0,0;").leaves(BAD, Fires.with("hand 0 1 #", Fires.outside(0, 3)));
+            Fires x = Fires.laid("t9999;c0,9,1,1,1,1;c0,9,0,0,0,0;")
+                    .leaves(BAD, Fires.with("hand 0 1 #", Fires.outside(0, 3)));
             x.leaves(BAD, "hand 1 0 4", "hand 1 0 -1", "hand 1 1 0", "hand 0 0 4");
         });
     }
@@ -381,13 +391,15 @@ public final class EdgesOfFiresTest {
         });
         Edges.edge("of HOURS (all that go by at one time are one)", () -> {
             Fires x = one(20, "", "0,0,0,0").does("pass 24", "pass 1", "pass 2").due(3, "count 7").due(2, "undo");
-            x.due(25, "count 2").due(1, "undo").due(24, "count 2").due(0, "undo").due(0, "count 2").due(20, "company 0 0");
+            x.due(25, "count 2").due(1, "undo").due(24, "count 2").due(0, "undo").due(0, "count 2")
+                    .due(20, "company 0 0");
         });
         Edges.edge("UNDONE are these alone: no other call and no refused one", () -> {
             Fires x = Fires.laid("t9999;c0,9,1,0,0,0;c0,9,0,0,0,0;").does("put 0 0").due(1, "count 7");
             x.does("see 1", "forget", "see 0", "write 32", "wipe", "keep", "winter 7 60 0", "fault").due(1, "count 7");
             x.due(NO, "put 0 0", "light 0 1", "hand 0 1 0").due(BAD, "pass 0", "put 0 4", "join 0 0").due(1, "count 7");
-            x.due(0, "stays 0 1 -1", "tell 0 0 -1", "meet 0 1 -1").due(NONE, "give 0 1 6").due(0, "undo").due(NO, "undo");
+            x.due(0, "stays 0 1 -1", "tell 0 0 -1", "meet 0 1 -1").due(NONE, "give 0 1 6").due(0, "undo")
+                    .due(NO, "undo");
             x.due(1, "count 6", "count 8");
         });
     }
@@ -395,7 +407,8 @@ public final class EdgesOfFiresTest {
     private static void undoneWhole() {
         Edges.edge("UNDONE: wood put on, hours, lit, joined, handed on: all of it", () -> {
             Fires x = Fires.laid("t1111;t0000;r2;c0,9,3,1,0,0;c1,1,1,1,1,2;c0,5,1,1,2,1;");
-            String[] acts = {"put 0 0", "put 1 3", "hand 0 1 0", "pass 2", "light 1 0", "put 0 1", "join 0 1", "pass 3"};
+            String[] acts = {"put 0 0", "put 1 3", "hand 0 1 0", "pass 2", "light 1 0", "put 0 1", "join 0 1",
+                    "pass 3"};
             Fires[] ahead = new Fires[acts.length];
             for (int i = 0; i < acts.length; i++) {
                 ahead[i] = x.again();

@@ -165,7 +165,8 @@ public final class EdgesOfTextTest {
         });
         Edges.edge("a row: single figures, one next to the other", () -> {
             sound("t0000;", "t0123;", "t9876;");
-            faulty("t000;", "t00000;", "t0,0,0,0;", "t00,00;", "t0 000;", "t;", "t0;", "t00;", "t,;", "t10000;", "t0000,;");
+            faulty("t000;", "t00000;", "t0,0,0,0;", "t00,00;", "t0 000;", "t;", "t0;", "t00;", "t,;", "t10000;",
+                    "t0000,;");
         });
     }
 
@@ -409,7 +410,8 @@ public final class EdgesOfTextTest {
             Fires.laid(LINE + COMPANY).leaves(BAD, "line 1 0", "line -1 0", "line 0 4", "line 0 -1", "line 9 9");
         });
         Edges.edge("line: NONE; of several BAD is first", () -> {
-            Fires x = Fires.laid("t0999;t1919;c0,1,0,0,0,0;").leaves(NONE, "line 0 1", "line 0 3", "line 1 1", "line 1 3");
+            Fires x = Fires.laid("t0999;t1919;c0,1,0,0,0,0;")
+                    .leaves(NONE, "line 0 1", "line 0 3", "line 1 1", "line 1 3");
             x.due(0, "line 0 0").due(1, "line 1 0", "line 1 2").due(BAD, "line 1 4", "line 2 1");
         });
     }
@@ -434,12 +436,14 @@ public final class EdgesOfTextTest {
             for (int n = 1; n <= 4; n++) {
                 Fires x = Fires.laid(LINE + times(n, "c0,2,1,1,1,1;"));
                 x.stands(0, 2, 0, 1, 1, 1, 1, NONE, 0).stands(n - 1, 2, 0, 1, 1, 1, 1, NONE, 0);
-                x.leaves(BAD, Fires.with("company # 0", n, -1)).due(BAD, Fires.with("company # 7", Fires.outside(0, n - 1)));
+                x.leaves(BAD, Fires.with("company # 0", n, -1))
+                        .due(BAD, Fires.with("company # 7", Fires.outside(0, n - 1)));
                 x.due(BAD, Fires.with("company " + (n - 1) + " #", Fires.outside(0, 7)));
             }
         });
         Edges.edge("company: at which LINE (NONE: OUT), the WOOD PUT ON last (NONE)", () -> {
-            Fires x = Fires.laid("t0000;c0,1,1,1,1,1;c0,2,1,1,1,1;").leaves(0, "company 0 1").leaves(NONE, "company 0 6");
+            Fires x = Fires.laid("t0000;c0,1,1,1,1,1;c0,2,1,1,1,1;").leaves(0, "company 0 1")
+                    .leaves(NONE, "company 0 6");
             x.does("put 0 0").leaves(0, "company 0 6").does("put 0 3").due(3, "company 0 6");
             x.does("pass 5").stands(0, 1, 0, 0, 1, 1, 0, 3, 2).stands(1, 0, NONE, 1, 1, 1, 1, NONE, 0);
             x.does("pass 1").stands(0, 0, NONE, 0, 1, 1, 0, NONE, 2).due(0, "count 3");

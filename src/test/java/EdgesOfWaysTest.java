@@ -42,7 +42,8 @@ public final class EdgesOfWaysTest {
             }
         });
         Edges.edge("LASTS: from the hour that it is, round the row of rain", () -> {
-            Fires x = one(20, "r3;r0;r0;", "0,0,0,0").due(10, "lasts 0").does("pass 1").due(9, "lasts 0").does("pass 1");
+            Fires x = one(20, "r3;r0;r0;", "0,0,0,0").due(10, "lasts 0").does("pass 1").due(9, "lasts 0")
+                    .does("pass 1");
             x.due(8, "lasts 0").does("pass 1").due(7, "lasts 0").does("pass 6").due(1, "lasts 0");
             Fires late = one(5, "r0;r0;r3;", "0,0,0,0").due(3, "lasts 0").does("pass 2").due(1, "lasts 0");
             late.due(3, "company 0 0");
@@ -104,8 +105,10 @@ public final class EdgesOfWaysTest {
             Fires x = one(3, "r0;r1;r3;", "0,0,0,1").way("stays 0 1", 0, NONE).way("stays 0 2", 1, 3, NONE);
             x.does("pass 1").due(2, "company 0 0").way("stays 0 1", 1, 3);
             Fires last = one(20, "r0;r0;r0;r0;r3;", "0,0,0,1").does("pass 4").due(16, "company 0 0");
-            last.way("stays 0 1", 0, NONE).does("pass 1").due(12, "company 0 0").way("stays 0 4", 0, NONE, NONE, NONE, NONE);
-            last.way("stays 0 5", 0, NONE, NONE, NONE, NONE, NONE).way("stays 0 6", 0, NONE, NONE, NONE, NONE, NONE, NONE);
+            last.way("stays 0 1", 0, NONE).does("pass 1").due(12, "company 0 0")
+                    .way("stays 0 4", 0, NONE, NONE, NONE, NONE);
+            last.way("stays 0 5", 0, NONE, NONE, NONE, NONE, NONE)
+                    .way("stays 0 6", 0, NONE, NONE, NONE, NONE, NONE, NONE);
         });
         Edges.edge("KEEP: by the last LOG that is on it", () -> {
             one(1, "", "0,1,0,0").does("put 0 1").way("stays 0 3", 0, NONE, NONE, NONE).way("stays 0 4", NONE);
@@ -127,7 +130,8 @@ public final class EdgesOfWaysTest {
             one(1, "", "0,1,1,1").way("stays 0 1", 1, 1);
             one(1, "", "0,0,1,1").way("stays 0 1", 1, 3);
             Fires wetFirst = one(4, "", "0,1,1,1").does("put 0 1").due(10, "company 0 0");
-            wetFirst.way("stays 0 5", 1, 2, NONE, NONE, NONE, NONE).way("stays 0 6", 1, 2, NONE, NONE, NONE, NONE, NONE);
+            wetFirst.way("stays 0 5", 1, 2, NONE, NONE, NONE, NONE)
+                    .way("stays 0 6", 1, 2, NONE, NONE, NONE, NONE, NONE);
         });
         Edges.edge("KEEP: none behind all WOOD, by the first HOUR, then the second, ..", () -> {
             one(5, "", "0,0,0,1").way("stays 0 5", 1, 3, NONE, NONE, NONE, NONE);
@@ -159,7 +163,8 @@ public final class EdgesOfWaysTest {
             one(9, "", "9,9,9,9").leaves(NONE, "stays 0 6 0", "stays 0 6 5", "stays 0 6 6");
         });
         Edges.edge("stays: NO: OUT; BAD ahead of it", () -> {
-            Fires x = Fires.laid("t9999;c0,1,9,9,9,9;c0,9,9,9,9,9;").does("pass 1").leaves(NO, "stays 0 1 -1", "stays 0 6 0");
+            Fires x = Fires.laid("t9999;c0,1,9,9,9,9;c0,9,9,9,9,9;").does("pass 1")
+                    .leaves(NO, "stays 0 1 -1", "stays 0 6 0");
             x.leaves(NO, "stays 0 1 99").leaves(BAD, "stays 0 0 -1", "stays 0 7 0", "stays 0 1 -2", "stays 2 1 -1");
             x.due(0, "stays 1 1 -1").due(BAD, Fires.with("stays # 1 -1", Fires.outside(0, 1)));
         });
@@ -210,24 +215,28 @@ public final class EdgesOfWaysTest {
             Fires.laid("t9911;t9922;t9999;c0,2,0,0,2,1;").way("tell 0 2", 2, 3, 2);
         });
         Edges.edge("TELL: at that LINE behind the row: on its way is sooner", () ->
-                Fires.laid("t1111;t2222;t0000;c0,9,9,9,9,9;").way("tell 0 1", 1, 0).way("tell 0 2", 2, 0, 0).way("tell 0 0", 0));
+                Fires.laid("t1111;t2222;t0000;c0,9,9,9,9,9;").way("tell 0 1", 1, 0).way("tell 0 2", 2, 0, 0)
+                        .way("tell 0 0", 0));
     }
 
     private static void tellNumbers() {
         Edges.edge("tell: a LINE; BAD", () -> {
             for (int n = 1; n <= 9; n++) {
                 Fires x = Fires.laid("t0000;".repeat(n) + "c0,9,1,1,1,1;").leaves(0, "tell 0 0 -1");
-                x.leaves(n == 1 ? 0 : NONE, "tell 0 " + (n - 1) + " -1").leaves(BAD, "tell 0 " + n + " -1", "tell 0 -1 -1");
+                x.leaves(n == 1 ? 0 : NONE, "tell 0 " + (n - 1) + " -1")
+                        .leaves(BAD, "tell 0 " + n + " -1", "tell 0 -1 -1");
                 x.due(BAD, Fires.with("tell 0 # 0", Fires.outside(0, n - 1)));
             }
         });
         Edges.edge("tell: how many (k = -1), the k-th (0 first; NONE: there are not so many); BAD", () -> {
-            Fires x = Fires.laid(CHAIN + "c0,1,9,9,9,9;").leaves(6, "tell 0 6 -1").leaves(0, "tell 0 6 0", "tell 0 6 5");
+            Fires x = Fires.laid(CHAIN + "c0,1,9,9,9,9;").leaves(6, "tell 0 6 -1")
+                    .leaves(0, "tell 0 6 0", "tell 0 6 5");
             x.leaves(NONE, "tell 0 6 6", "tell 0 0 0", "tell 0 7 -1", "tell 0 7 0");
             x.leaves(BAD, "tell 0 6 -2", "tell 0 7 -2").due(BAD, "tell 0 6 " + Integer.MIN_VALUE);
         });
         Edges.edge("tell: NO: OUT; BAD ahead of it", () -> {
-            Fires x = Fires.laid(CHAIN + "c0,1,9,9,9,9;c0,9,9,9,9,9;").does("pass 1").leaves(NO, "tell 0 0 -1", "tell 0 8 0");
+            Fires x = Fires.laid(CHAIN + "c0,1,9,9,9,9;c0,9,9,9,9,9;").does("pass 1")
+                    .leaves(NO, "tell 0 0 -1", "tell 0 8 0");
             x.leaves(NO, "tell 0 0 99").leaves(BAD, "tell 0 9 -1", "tell 0 -1 0", "tell 0 0 -2", "tell 2 0 -1");
             x.due(0, "tell 1 0 -1").due(BAD, Fires.with("tell # 0 -1", Fires.outside(0, 1)));
         });
@@ -235,7 +244,8 @@ public final class EdgesOfWaysTest {
 
     private static void meet() {
         Edges.edge("MEET: the shortest: at the same LINE already", () -> {
-            Fires x = Fires.laid("t1999;t9999;c1,9,0,0,0,0;c1,1,0,0,0,0;c0,1,0,0,0,0;").way("meet 0 1", 0).way("meet 1 0", 0);
+            Fires x = Fires.laid("t1999;t9999;c1,9,0,0,0,0;c1,1,0,0,0,0;c0,1,0,0,0,0;").way("meet 0 1", 0)
+                    .way("meet 1 0", 0);
             x.way("meet 2 0", 1, 0).way("meet 0 2", 1, 0);
         });
         Edges.edge("MEET: the longest shortest row that there is: 36", () -> {
@@ -260,6 +270,10 @@ public final class EdgesOfWaysTest {
             Fires.laid("t1999;t0999;c0,9,9,9,9,9;c1,9,9,9,9,9;").way("meet 0 1", NONE).way("meet 1 0", NONE);
             Fires.laid("t1111;t0000;c0,9,9,9,9,9;c1,9,9,9,9,9;").way("meet 0 1", NONE);
             Fires.laid("t2999;t3999;t9999;t9999;c0,9,9,9,9,9;c1,9,9,9,9,9;").way("meet 0 1", NONE);
+            Fires others = Fires.laid("t1111;t0000;" + "t1111;".repeat(7) + "c0,9,9,9,9,9;c1,9,9,9,9,9;c8,9,9,9,9,9;");
+            others.way("meet 0 1", NONE).way("meet 1 0", NONE).way("meet 0 2", 1, 0).way("meet 1 2", NONE);
+            String apart = "t1211;t9999;t9999;t9999;t9999;t1111;t9999;t9999;t9999;";
+            Fires.laid(apart + "c0,9,9,9,9,9;c3,9,9,9,9,9;").way("meet 0 1", NONE).way("meet 1 0", NONE);
             Fires.laid("t2999;t3999;t9999;t9929;c0,9,9,9,9,9;c1,9,9,9,9,9;").way("meet 0 1", 2, 0, 2);
             Fires.laid("t9199;t9999;c0,9,9,9,9,9;c1,9,9,9,9,9;").way("meet 0 1", 1, 1);
         });
@@ -280,9 +294,11 @@ public final class EdgesOfWaysTest {
         });
         Edges.edge("meet: NO: OUT, one of them; BAD (alike, too) ahead of it", () -> {
             Fires x = Fires.laid("t1111;t0000;c0,1,1,1,1,1;c1,9,1,1,1,1;c0,1,1,1,1,1;").does("pass 1");
-            x.leaves(NO, "meet 0 1 -1", "meet 1 0 0", "meet 0 2 9").leaves(BAD, "meet 0 1 -2", "meet 0 0 -1", "meet 1 1 -1");
+            x.leaves(NO, "meet 0 1 -1", "meet 1 0 0", "meet 0 2 9")
+                    .leaves(BAD, "meet 0 1 -2", "meet 0 0 -1", "meet 1 1 -1");
             x.leaves(BAD, "meet 3 0 -1", "meet 0 3 -1", "meet -1 0 0", "meet 0 -1 0");
-            x.due(BAD, Fires.with("meet # 1 0", Fires.outside(0, 2))).due(BAD, Fires.with("meet 1 # 0", Fires.outside(0, 2)));
+            x.due(BAD, Fires.with("meet # 1 0", Fires.outside(0, 2)))
+                    .due(BAD, Fires.with("meet 1 # 0", Fires.outside(0, 2)));
         });
     }
 
@@ -290,11 +306,13 @@ public final class EdgesOfWaysTest {
         Edges.edge("CAN: LINES (bits), that at which it is among them", () -> {
             for (int n = 1; n <= 9; n++) {
                 int l = n - 1;
-                Fires.laid("t9999;".repeat(n) + "c" + l + ",1,0,0,0,0;c0,1,0,0,0,0;").leaves(1 << l, "can 0").due(1, "can 1");
+                Fires.laid("t9999;".repeat(n) + "c" + l + ",1,0,0,0,0;c0,1,0,0,0,0;").leaves(1 << l, "can 0")
+                        .due(1, "can 1");
             }
         });
         Edges.edge("CAN: to which it can come by any WOOD so: all nine, eight steps off, and none back", () -> {
-            Fires x = Fires.laid("t9991;t9929;t9399;t4999;t9995;t9969;t9799;t8999;t9999;c0,1,0,0,0,0;c8,1,0,0,0,0;c4,1,0,0,0,0;");
+            String tale = "t9991;t9929;t9399;t4999;t9995;t9969;t9799;t8999;t9999;";
+            Fires x = Fires.laid(tale + "c0,1,0,0,0,0;c8,1,0,0,0,0;c4,1,0,0,0,0;");
             x.leaves(511, "can 0").due(256, "can 1").due(0x1f0, "can 2");
             Fires.laid("t9999;t9990;t9919;t9299;t3999;t9994;t9959;t9699;t7999;c8,1,0,0,0,0;").due(511, "can 0");
         });
@@ -302,7 +320,8 @@ public final class EdgesOfWaysTest {
                 Fires.laid("t9929;t9999;t9919;c0,1,0,0,0,0;").due(7, "can 0"));
         Edges.edge("can: NO: OUT; BAD ahead of it", () -> {
             for (int n = 1; n <= 4; n++) {
-                Fires x = Fires.laid("t9999;" + "c0,1,9,9,9,9;".repeat(n)).leaves(1, "can 0", "can " + (n - 1)).does("pass 1");
+                Fires x = Fires.laid("t9999;" + "c0,1,9,9,9,9;".repeat(n)).leaves(1, "can 0", "can " + (n - 1))
+                        .does("pass 1");
                 x.leaves(NO, "can 0", "can " + (n - 1)).leaves(BAD, "can " + n, "can -1");
                 x.due(BAD, Fires.with("can #", Fires.outside(0, n - 1)));
             }
@@ -345,6 +364,8 @@ public final class EdgesOfWaysTest {
             wet.due(NONE, "give 0 1 1");
             Fires pine = Fires.laid("t9999;c0,9,0,0,0,1;c0,1,0,1,0,0;").does("put 1 1").due(3, "give 0 1 6");
             pine.due(7, "company 1 0");
+            Fires none = Fires.laid("t9999;c0,20,0,0,0,1;c0,1,0,1,0,0;").does("put 0 3", "put 1 1");
+            none.due(NONE, "give 0 1 6", "give 1 0 6");
         });
     }
 
@@ -357,9 +378,11 @@ public final class EdgesOfWaysTest {
         });
         Edges.edge("give: NO: OUT, one of them; BAD (alike, too) ahead of it", () -> {
             Fires x = Fires.laid("t9999;c0,1,1,1,1,1;c0,9,1,1,1,1;c0,1,0,0,0,0;").does("pass 1");
-            x.leaves(NO, "give 0 1 1", "give 1 0 1", "give 0 2 6").leaves(BAD, "give 0 0 1", "give 1 1 1", "give 0 1 0");
+            x.leaves(NO, "give 0 1 1", "give 1 0 1", "give 0 2 6")
+                    .leaves(BAD, "give 0 0 1", "give 1 1 1", "give 0 1 0");
             x.leaves(BAD, "give 0 1 7", "give 3 0 1", "give 0 3 1", "give -1 0 1", "give 0 -1 1");
-            x.due(BAD, Fires.with("give # 1 1", Fires.outside(0, 2))).due(BAD, Fires.with("give 1 # 1", Fires.outside(0, 2)));
+            x.due(BAD, Fires.with("give # 1 1", Fires.outside(0, 2)))
+                    .due(BAD, Fires.with("give 1 # 1", Fires.outside(0, 2)));
         });
     }
 }

@@ -42,7 +42,8 @@ public final class EdgesOfWintersTest {
         });
         Edges.edge("forget: nothing is SEEN: how many were", () -> {
             new Fires().leaves(0, "forget");
-            Fires x = new Fires().does("see 1", "see 2", "see 3").due(3, "forget").due(0, "count 6", "forget").due(1, "see 0");
+            Fires x = new Fires().does("see 1", "see 2", "see 3").due(3, "forget").due(0, "count 6", "forget")
+                    .due(1, "see 0");
             x.due(1, "forget").does("put 0 0", "see 2", "forget").due(1, "count 7");
         });
         Edges.edge("see: it is SEEN alone: nothing is PUT ON", () -> {
@@ -69,20 +70,24 @@ public final class EdgesOfWintersTest {
         Edges.edge("FROM: one behind the other, the first one first", () -> {
             String tale = "t1929;t9929;t9999;t9999;";
             Fires x = Fires.laid("t1999;t9299;t3999;t9999;c3,9,0,0,0,0;c2,9,0,0,0,0;").does("see 0", "see 1");
-            x.due(8 + 4, "from 0").due(2 + 1, "from 1").does("forget", "see 1", "see 0").due(8 + 4 + 2, "from 0").due(0, "from 1");
+            x.due(8 + 4, "from 0").due(2 + 1, "from 1").does("forget", "see 1", "see 0").due(8 + 4 + 2, "from 0")
+                    .due(0, "from 1");
             Fires.laid(tale + "c2,9,0,0,0,0;").does("see 0", "see 2").due(7, "from 0");
         });
         Edges.edge("FROM: none: it stays; all nine (511) and none (0)", () -> {
-            Fires.laid("t0999;".repeat(9) + "c0,9,0,0,0,0;c1,9,0,0,0,0;").does("see 0").due(511, "from 0").due(0, "from 1")
+            Fires.laid("t0999;".repeat(9) + "c0,9,0,0,0,0;c1,9,0,0,0,0;").does("see 0").due(511, "from 0")
+                    .due(0, "from 1")
                     .does("forget", "see 1", "see 2", "see 3").due(1, "from 0").due(2, "from 1");
         });
         Edges.edge("FROM: at the LINE at which it is now", () -> {
-            Fires x = Fires.laid(CHAIN + "c2,1,9,0,0,0;").does("see 0").due(2, "from 0").does("put 0 0").due(4, "from 0");
+            Fires x = Fires.laid(CHAIN + "c2,1,9,0,0,0;").does("see 0").due(2, "from 0").does("put 0 0")
+                    .due(4, "from 0");
             x.does("undo").due(2, "from 0");
         });
         Edges.edge("from: NO: OUT; BAD ahead of it", () -> {
             for (int n = 1; n <= 4; n++) {
-                Fires x = Fires.laid("t9999;" + "c0,1,9,9,9,9;".repeat(n)).due(1, "from 0", "from " + (n - 1)).does("pass 1");
+                Fires x = Fires.laid("t9999;" + "c0,1,9,9,9,9;".repeat(n)).due(1, "from 0", "from " + (n - 1))
+                        .does("pass 1");
                 x.leaves(NO, "from 0", "from " + (n - 1)).leaves(BAD, "from " + n, "from -1");
                 x.due(BAD, Fires.with("from #", Fires.outside(0, n - 1)));
             }
@@ -116,13 +121,16 @@ public final class EdgesOfWintersTest {
         });
         Edges.edge("rows: a LINE, n (0 to 8); BAD", () -> {
             for (int n = 1; n <= 9; n++) {
-                Fires x = Fires.laid("t9999;".repeat(n) + "c0,9,1,1,1,1;").leaves(n == 1 ? 1 : 0, "rows 0 " + (n - 1) + " 0");
-                x.leaves(BAD, "rows 0 " + n + " 0", "rows 0 -1 8").due(BAD, Fires.with("rows 0 # 1", Fires.outside(0, n - 1)));
+                Fires x = Fires.laid("t9999;".repeat(n) + "c0,9,1,1,1,1;")
+                        .leaves(n == 1 ? 1 : 0, "rows 0 " + (n - 1) + " 0");
+                x.leaves(BAD, "rows 0 " + n + " 0", "rows 0 -1 8")
+                        .due(BAD, Fires.with("rows 0 # 1", Fires.outside(0, n - 1)));
                 x.leaves(BAD, "rows 0 0 9", "rows 0 0 -1").due(BAD, Fires.with("rows 0 0 #", Fires.outside(0, 8)));
             }
         });
         Edges.edge("rows: NO: OUT; BAD ahead of it", () -> {
-            Fires x = Fires.laid("t9999;c0,1,0,0,0,0;c0,2,0,0,0,0;").does("pass 1").leaves(NO, "rows 0 0 0", "rows 0 0 8");
+            Fires x = Fires.laid("t9999;c0,1,0,0,0,0;c0,2,0,0,0,0;").does("pass 1")
+                    .leaves(NO, "rows 0 0 0", "rows 0 0 8");
             x.leaves(BAD, "rows 0 1 0", "rows 0 0 9", "rows 0 -1 0", "rows 0 0 -1", "rows 2 0 0", "rows -1 0 0");
             x.due(1, "rows 1 0 0").due(BAD, Fires.with("rows # 0 0", Fires.outside(0, 1)));
         });
@@ -154,6 +162,16 @@ public final class EdgesOfWintersTest {
             chance(x, "rains 0 8 10", 0, 1);
             chance(x, "rains 2 6 10", 1, 1);
             chance(x, "rains 2 7 10", 0, 1);
+        });
+        Edges.edge("RAINS: of each heat (1 to 20), behind none to 8 HOURS, by 0 and by 10 of ten", () -> {
+            for (int hot = 1; hot <= 20; hot++) {
+                Fires x = Fires.laid("t9999;c0," + hot + ",0,0,0,0;");
+                for (int n = 0; n <= 8; n++) {
+                    chance(x, "rains 0 " + n + " 0", hot > n ? 1 : 0, 1);
+                    chance(x, "rains 0 " + n + " 10", hot > 3 * n ? 1 : 0, 1);
+                }
+                chance(x, "rains 0 0 5", 1, 1);
+            }
         });
         Edges.edge("RAINS: by 2 more", () -> {
             chance(Fires.laid("t9999;c0,4,0,0,0,0;"), "rains 0 1 10", 1, 1);
@@ -200,7 +218,8 @@ public final class EdgesOfWintersTest {
                 Fires x = Fires.laid("t9999;" + "c0,9,0,0,0,0;".repeat(n)).leaves(1, "rains 0 0 0 0", "rains 0 8 0 1");
                 x.due(1, "rains " + (n - 1) + " 0 10 1").leaves(BAD, "rains " + n + " 0 0 0", "rains -1 0 0 0");
                 x.leaves(BAD, "rains 0 9 0 0", "rains 0 -1 0 0", "rains 0 0 11 0", "rains 0 0 -1 0");
-                x.leaves(BAD, "rains 0 0 0 2", "rains 0 0 0 -1").due(BAD, Fires.with("rains # 1 1 1", Fires.outside(0, n - 1)));
+                x.leaves(BAD, "rains 0 0 0 2", "rains 0 0 0 -1")
+                        .due(BAD, Fires.with("rains # 1 1 1", Fires.outside(0, n - 1)));
                 x.due(BAD, Fires.with("rains 0 # 1 1", Fires.outside(0, 8)));
                 x.due(BAD, Fires.with("rains 0 1 # 1", Fires.outside(0, 10)));
                 x.due(BAD, Fires.with("rains 0 1 1 #", Fires.outside(0, 1)));
@@ -233,7 +252,7 @@ public final class EdgesOfWintersTest {
     }
 
     private static void winterDraws() {
-        Edges.edge("DRAW modulo 8 is 0 to 4: COMPANY (DRAW by 8) modulo as many PUTS ON WOOD (DRAW by 64) modulo 4", () -> {
+        Edges.edge("if DRAW modulo 8 is 0 to 4, COMPANY (DRAW by 8, cut) PUTS ON WOOD (DRAW by 64, cut) modulo 4", () -> {
             for (int kind = 0; kind <= 4; kind++) {
                 for (int n = 1; n <= 4; n++) {
                     for (int c = 0; c < n; c++) {
@@ -292,7 +311,8 @@ public final class EdgesOfWintersTest {
                 text.append("c0,").append(i == c ? 1 : i == from ? hot : 2).append(",1,1,1,1;");
             }
             int want = c == from || hot == 4 ? n - 1 : n;
-            Fires x = Fires.laid(text.toString()).does("pass 1").due(want, "winter " + z + " 1 0").due(0, "winter " + z + " 1 1");
+            Fires x = Fires.laid(text.toString()).does("pass 1").due(want, "winter " + z + " 1 0")
+                    .due(0, "winter " + z + " 1 1");
             x.due(n - 1, "count 3").due(0, "company " + c + " 0");
         }
     }
@@ -304,7 +324,8 @@ public final class EdgesOfWintersTest {
             if (draw(z, k) % 8 >= 6) {
                 hours++;
                 if (hours <= 20) {
-                    Fires x = Fires.laid("t0000;c0," + hours + ",0,0,0,0;").due(0, "winter " + z + " " + (k + 1) + " 0");
+                    Fires x = Fires.laid("t0000;c0," + hours + ",0,0,0,0;")
+                            .due(0, "winter " + z + " " + (k + 1) + " 0");
                     if (k > 0) {
                         x.due(1, "winter " + z + " " + k + " 0");
                     }
@@ -327,7 +348,8 @@ public final class EdgesOfWintersTest {
         });
         Edges.edge("A WINTER: how many LINES were TOLD in it, not ahead of it", () -> {
             int z = drawn(0, 1, 0, 4, 3);
-            Fires x = Fires.laid("t0000;c0,3,9,9,9,2;").due(1, "winter " + z + " 1 1").does("put 0 0", "put 0 1", "put 0 3");
+            Fires x = Fires.laid("t0000;c0,3,9,9,9,2;").due(1, "winter " + z + " 1 1")
+                    .does("put 0 0", "put 0 1", "put 0 3");
             x.due(1, "winter " + z + " 1 1").due(3, "count 5").does("put 0 3").due(0, "winter " + z + " 1 1");
             Fires.laid("t9999;c0,3,9,9,9,2;").due(0, "winter " + z + " 1 1");
         });
@@ -335,7 +357,8 @@ public final class EdgesOfWintersTest {
             for (int z = 0; z <= 9999; z++) {
                 boolean puts = draw(z, 0) % 8 <= 4 && draw(z, 0) / 64 % 4 == 3;
                 if (puts && draw(z, 1) % 8 >= 6 && draw(z, 2) % 8 >= 6) {
-                    Fires x = Fires.laid("t0000;c0,1,0,0,0,1;").due(0, "winter " + z + " 3 0").due(1, "winter " + z + " 3 1");
+                    Fires x = Fires.laid("t0000;c0,1,0,0,0,1;").due(0, "winter " + z + " 3 0")
+                            .due(1, "winter " + z + " 3 1");
                     x.due(1, "winter " + z + " 2 0", "winter " + z + " 1 1");
                     return;
                 }
@@ -343,7 +366,8 @@ public final class EdgesOfWintersTest {
             Edges.wrong("no such draws");
         });
         Edges.edge("A WINTER: nothing changes by it", () -> {
-            Fires x = Fires.laid("t1111;t0000;r1;r0;c0,9,9,9,9,9;c1,20,9,9,9,9;c0,1,9,9,9,9;").does("put 0 0", "pass 2", "keep");
+            Fires x = Fires.laid("t1111;t0000;r1;r0;c0,9,9,9,9,9;c1,20,9,9,9,9;c0,1,9,9,9,9;")
+                    .does("put 0 0", "pass 2", "keep");
             int in = x.again().asks("winter 77 60 0");
             int told = x.again().asks("winter 77 60 1");
             x.leaves(in, "winter 77 60 0").leaves(told, "winter 77 60 1").due(in, "winter 77 60 0", "winter 77 60 0");
@@ -363,15 +387,18 @@ public final class EdgesOfWintersTest {
     private static void winterNumbers() {
         Edges.edge("winter: z (0 to 9999), n (1 to 60), FIRES (what = 0), LINES (1); BAD", () -> {
             Fires x = new Fires().leaves(3, "winter 0 1 0", "winter 9999 1 0").leaves(1, "winter 5 60 0");
-            x.leaves(12, "winter 5 60 1").leaves(BAD, "winter -1 1 0", "winter 10000 1 0", "winter 0 0 0", "winter 0 61 0");
+            x.leaves(12, "winter 5 60 1")
+                    .leaves(BAD, "winter -1 1 0", "winter 10000 1 0", "winter 0 0 0", "winter 0 61 0");
             x.leaves(BAD, "winter 0 1 -1", "winter 0 1 2").due(BAD, Fires.with("winter # 1 0", Fires.outside(0, 9999)));
-            x.due(BAD, Fires.with("winter 0 # 0", Fires.outside(1, 60))).due(BAD, Fires.with("winter 0 1 #", Fires.outside(0, 1)));
+            x.due(BAD, Fires.with("winter 0 # 0", Fires.outside(1, 60)))
+                    .due(BAD, Fires.with("winter 0 1 #", Fires.outside(0, 1)));
         });
     }
 
     private static void keep() {
         Edges.edge("KEPT: 2 at most; keep: FULL", () -> {
-            Fires x = new Fires().due(1, "keep").due(1, "count 8").due(2, "keep").due(2, "count 8").leaves(FULL, "keep");
+            Fires x = new Fires().due(1, "keep").due(1, "count 8").due(2, "keep").due(2, "count 8")
+                    .leaves(FULL, "keep");
             x.does("put 0 0").leaves(FULL, "keep").due(1, "back").due(2, "keep").leaves(FULL, "keep");
         });
         Edges.edge("KEPT is all as it stands; a refused keep KEEPS nothing", () -> {
@@ -395,7 +422,8 @@ public final class EdgesOfWintersTest {
         });
         Edges.edge("back: as KEPT last (it is KEPT no more then): how many are left", () -> {
             Fires x = new Fires().does("pass 1", "keep", "pass 1", "keep", "pass 1").due(1, "back").due(2, "count 2");
-            x.due(1, "count 8").does("pass 5", "keep").due(1, "back").due(7, "count 2").due(0, "back").due(1, "count 2");
+            x.due(1, "count 8").does("pass 5", "keep").due(1, "back").due(7, "count 2").due(0, "back")
+                    .due(1, "count 2");
             x.due(0, "count 8").leaves(NO, "back");
             for (int round = 0; round < 9; round++) {
                 x.does("pass 1").due(1, "keep").does("pass 1").due(2, "keep").does("pass 1").due(1, "back");
@@ -403,7 +431,8 @@ public final class EdgesOfWintersTest {
             }
         });
         Edges.edge("back: nothing is UNDONE then", () -> {
-            Fires x = new Fires().does("put 0 0", "keep", "pass 1", "pass 1").due(3, "count 7").due(0, "back", "count 7");
+            Fires x = new Fires().does("put 0 0", "keep", "pass 1", "pass 1").due(3, "count 7")
+                    .due(0, "back", "count 7");
             x.leaves(NO, "undo").does("pass 2").due(1, "count 7").due(0, "undo").due(0, "count 2").leaves(NO, "undo");
             Fires full = new Fires().does("keep");
             for (int i = 0; i < 11; i++) {
@@ -420,12 +449,15 @@ public final class EdgesOfWintersTest {
         });
         Edges.edge("what is SEEN and THE TEXT stay by back()", () -> {
             Fires x = new Fires().does("see 1", "write 114", "keep", "see 2", "write 49", "keep", "see 3", "write 59");
-            x.due(1, "back").due(3, "count 6", "count 9").due(NONE, "fault").due(0, "back").due(3, "count 6", "count 9");
-            Fires wiped = new Fires().does("see 1", "write 114", "keep", "forget", "wipe", "back").due(0, "count 6", "count 9");
+            x.due(1, "back").due(3, "count 6", "count 9").due(NONE, "fault").due(0, "back")
+                    .due(3, "count 6", "count 9");
+            Fires wiped = new Fires().does("see 1", "write 114", "keep", "forget", "wipe", "back")
+                    .due(0, "count 6", "count 9");
             wiped.due(1, "from 0").due(NONE, "fault");
         });
         Edges.edge("back: a refused one changes nothing, nor what can be UNDONE", () ->
-                new Fires().does("put 0 0", "pass 1").due(NO, "back").due(2, "count 7").due(1, "undo").due(13, "company 0 0"));
+                new Fires().does("put 0 0", "pass 1").due(NO, "back").due(2, "count 7").due(1, "undo")
+                        .due(13, "company 0 0"));
     }
 
     private static void count() {
@@ -442,24 +474,29 @@ public final class EdgesOfWintersTest {
             }
         });
         Edges.edge("count: 2 hours gone by, 3 FIRES that are IN", () -> {
-            Fires x = Fires.laid("t9999;c0,1,0,0,0,0;c0,2,0,0,0,0;c0,3,0,0,0,0;c0,9,0,0,0,0;").due(4, "count 3").due(0, "count 2");
+            Fires x = Fires.laid("t9999;c0,1,0,0,0,0;c0,2,0,0,0,0;c0,3,0,0,0,0;c0,9,0,0,0,0;").due(4, "count 3")
+                    .due(0, "count 2");
             x.does("pass 1").due(3, "count 3").due(1, "count 2").does("pass 1").due(2, "count 3").does("pass 1");
-            x.due(1, "count 3").due(3, "count 2").does("light 0 3").due(2, "count 3").does("join 3 0").due(1, "count 3");
+            x.due(1, "count 3").due(3, "count 2").does("light 0 3").due(2, "count 3").does("join 3 0")
+                    .due(1, "count 3");
             x.does("pass 24").due(0, "count 3").due(27, "count 2").does("undo").due(1, "count 3").due(3, "count 2");
         });
         Edges.edge("count: 4 LOGS of all, 0 to 144, of FIRES that are OUT, too", () -> {
             Fires.laid("t9999;c0,1,0,0,0,0;").due(0, "count 4");
-            Fires x = Fires.laid("t9999;" + "c0,9,9,9,9,9;".repeat(4)).due(144, "count 4").does("put 3 2").due(143, "count 4");
+            Fires x = Fires.laid("t9999;" + "c0,9,9,9,9,9;".repeat(4)).due(144, "count 4").does("put 3 2")
+                    .due(143, "count 4");
             x.does("hand 0 1 1", "join 0 3", "pass 24").due(143, "count 4");
         });
         Edges.edge("count: 5 LINES TOLD at all FIRES, those that are OUT, too", () -> {
-            Fires x = Fires.laid("t0009;c0,9,9,9,9,9;c0,9,9,9,9,9;").due(0, "count 5").does("put 0 0", "put 0 3", "put 1 1");
+            Fires x = Fires.laid("t0009;c0,9,9,9,9,9;c0,9,9,9,9,9;").due(0, "count 5")
+                    .does("put 0 0", "put 0 3", "put 1 1");
             x.due(2, "count 5").does("pass 24").due(2, "count 5").does("undo", "undo").due(1, "count 5");
         });
-        Edges.edge("count: 6 SEEN (0 to 6), 7 that can be UNDONE (0 to 8), 8 KEPT (0 to 2), 9 letters (0 to 200)", () -> {
+        Edges.edge("count: 6 SEEN (to 6), 7 that can be UNDONE (to 8), 8 KEPT (to 2), 9 letters (to 200)", () -> {
             Fires x = new Fires();
             for (int i = 0; i <= 9; i++) {
-                x.due(Math.min(6, i), "count 6").due(Math.min(8, i), "count 7").due(Math.min(2, i), "count 8").due(i, "count 9");
+                x.due(Math.min(6, i), "count 6").due(Math.min(8, i), "count 7").due(Math.min(2, i), "count 8")
+                        .due(i, "count 9");
                 x.asks("see 0");
                 x.asks("pass 1");
                 x.asks("keep");
