@@ -11,8 +11,10 @@ import java.util.ArrayList;
 import java.util.List;
 import java.util.Random;
 import java.util.TreeSet;
+import java.util.regex.Matcher;
+import java.util.regex.Pattern;
 
-/** The public face, that no call ever throws, what a run makes, and what LANGUAGE.md forbids outright. */
+/** The public face, that no call ever throws, and what a run makes. */
 public final class FaceTest {
     private static final String METHODS = "back() can(1) company(2) count(1) fault() forget() from(1) give(3) hand(3) "
             + "join(2) keep() lasts(1) lay() light(2) line(2) meet(3) pass(1) put(2) rain(1) rains(4) rows(3) see(1) "
@@ -27,10 +29,10 @@ public final class FaceTest {
 
     public static void main(String[] args) throws IOException {
         face();
+        asWritten();
         neverThrows();
         makesLittle();
-        source();
-        System.out.println(wrong == 0 ? "the face and the rules hold" : wrong + " faults");
+        System.out.println(wrong == 0 ? "the face holds" : wrong + " faults");
         if (wrong != 0) {
             System.exit(1);
         }
@@ -155,19 +157,45 @@ public final class FaceTest {
         }
     }
 
-    private static void source() throws IOException {
-        List<String> lines = Files.readAllLines(Path.of("src/main/java/EmberTale.java"));
-        String[] never = {"import ", "package ", "catch", "throw", "finally", "synchronized", "assert ", "->", "::", "\" +",
-            "+ \"", "Exact(", "protected ", "var ", "while (true)", "for (;;)", "record ", "System.", "hashCode",
-            "toString"};
-        for (int i = 0; i < lines.size(); i++) {
-            for (String word : never) {
-                due("line " + (i + 1) + " has '" + word + "'", lines.get(i).contains(word), false);
+    /** Each line of the document's face, in its order; ahead of each group of calls what the interface says there. */
+    private static void asWritten() throws IOException {
+        String document = Files.readString(Path.of("../shared/DOC.md"));
+        List<String> face = lines("(?m)^ *(public .*?)(?: \\{|;)$", document);
+        List<String> source = lines("(?m)^(?:    )?(public .*?)(?: \\{|;)$",
+                Files.readString(Path.of("src/main/java/EmberTale.java")));
+        due("members of the document", face.size(), 31);
+        due("members, in this order", source, face);
+
+        Matcher group = Pattern.compile("Ahead of the calls ([`a-z, ]+) the interface says: (---- .*)")
+                .matcher(document);
+        List<String> groups = new ArrayList<>();
+        while (group.find()) {
+            groups.add(group.group(2) + " " + group.group(1).replace("`", "").replace(",", ""));
+        }
+        due("groups of calls in the document", groups.size(), 5);
+        due("groups of calls", groupsOfTheSource(), groups);
+    }
+
+    private static List<String> groupsOfTheSource() throws IOException {
+        List<String> groups = new ArrayList<>();
+        Matcher line = Pattern.compile("(?m)^    // (---- .*)$|^    public int (\\w+)\\(")
+                .matcher(Files.readString(Path.of("src/main/java/EmberTale.java")));
+        while (line.find()) {
+            if (line.group(1) != null) {
+                groups.add(line.group(1));
+            } else if (!groups.isEmpty()) {
+                groups.set(groups.size() - 1, groups.get(groups.size() - 1) + " " + line.group(2));
             }
         }
-        due("classes", EmberTale.class.getDeclaredClasses().length <= 12, true);
-        for (Class<?> inside : EmberTale.class.getDeclaredClasses()) {
-            due(inside + " has some twenty fields at most", inside.getDeclaredFields().length <= 20, true);
+        return groups;
+    }
+
+    private static List<String> lines(String pattern, String text) {
+        List<String> lines = new ArrayList<>();
+        Matcher line = Pattern.compile(pattern).matcher(text);
+        while (line.find()) {
+            lines.add(line.group(1));
         }
+        return lines;
     }
 }
